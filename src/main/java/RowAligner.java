@@ -297,7 +297,8 @@ public final class RowAligner {
         }
 
         void reverse() {
-            for (int low = 0, high = length - 1; low < high; low++, high--) {
+            for (int low = 0; low < length / 2; low++) {
+                int high = length - 1 - low;
                 int kept = letters[low];
                 letters[low] = letters[high];
                 letters[high] = kept;
