@@ -1,7 +1,7 @@
 import java.math.BigInteger;
 import java.util.Random;
 
-/** Promises 10 to 18 on rows of up to 96 letters, beside a slower search that goes gap by gap instead of step by step. */
+/** Promises 10 to 18 on rows of up to 96 letters, beside a slower search that goes gap by gap, not step by step. */
 public final class LargeTest {
     private static final BigInteger ABOVE = BigInteger.ONE.shiftLeft(63);
 
@@ -71,23 +71,21 @@ public final class LargeTest {
         Reference r = new Reference();
         r.a = row(n, letters);
         r.b = row(m, letters);
-        int same = random.nextInt(5);
-        int others = -random.nextInt(5);
-        r.scores = new int[26][26];
-        for (int i = 0; i < 26; i++) {
-            for (int j = 0; j < 26; j++) {
-                r.scores[i][j] = i == j ? same : others;
-            }
-        }
+        r.same = random.nextInt(5);
+        r.others = -random.nextInt(5);
         r.open = random.nextInt(5);
         r.more = random.nextInt(3);
-        RowAligner x = Rows.of(r.a, r.b);
-        x.scores(same, others);
-        x.costs(r.open, r.more);
         for (int free : new int[] {0, random.nextInt(16), 15}) {
-            compareWhole("round " + round + " whole " + free + " ", x, r, free);
+            compareWhole("round " + round + " whole " + free + " ", r, free);
         }
-        compareParts("round " + round + " parts ", x, r);
+        compareParts("round " + round + " parts ", r);
+    }
+
+    private static RowAligner alignerOf(Reference r) {
+        RowAligner x = Rows.of(r.a, r.b);
+        x.scores(r.same, r.others);
+        x.costs(r.open, r.more);
+        return x;
     }
 
     private String row(int length, int letters) {
@@ -98,17 +96,20 @@ public final class LargeTest {
         return text.toString();
     }
 
-    private void compareWhole(String told, RowAligner x, Reference r, int free) {
+    private void compareWhole(String told, Reference r, int free) {
+        RowAligner x = alignerOf(r);
         r.searchWhole(free);
         check.same(told + "worth", x.whole(free), r.best);
         check.same(told + "ways", x.ways(), r.ways.mod(ABOVE).longValueExact());
         check.same(told + "crossings", Rows.crossings(x), r.crossings());
         check.same(told + "steps", Rows.steps(x), r.firstSteps());
-        Rows.draw(x, Rows.steps(x));
-        check.same(told + "as a draft", x.worth(free), r.best);
+        RowAligner draft = alignerOf(r);
+        Rows.draw(draft, r.firstSteps());
+        check.same(told + "as a draft", draft.worth(free), r.best);
     }
 
-    private void compareParts(String told, RowAligner x, Reference r) {
+    private void compareParts(String told, Reference r) {
+        RowAligner x = alignerOf(r);
         r.searchParts();
         check.same(told + "worth", x.parts(), r.best);
         check.same(told + "ways", x.ways(), r.ways.mod(ABOVE).longValueExact());
@@ -120,7 +121,8 @@ public final class LargeTest {
         private static final int NEVER = -1 << 28;
         String a;
         String b;
-        int[][] scores;
+        int same;
+        int others;
         int open;
         int more;
         int best;
@@ -220,7 +222,7 @@ public final class LargeTest {
         }
 
         private int score(int i, int j) {
-            return scores[a.charAt(i - 1) - 'a'][b.charAt(j - 1) - 'a'];
+            return a.charAt(i - 1) == b.charAt(j - 1) ? same : others;
         }
 
         private void fillGap(int gap, int i, int j, int fromI, int fromJ, int k) {
@@ -302,7 +304,7 @@ public final class LargeTest {
             return text.toString();
         }
 
-        /** The first of the best, by trying: a beginning is kept if it can be gone on with to the best worth. */
+        /** The first of the best, by comparing all their steps as texts. */
         String firstSteps() {
             String[][][] least = new String[3][a.length() + 1][b.length() + 1];
             int[][][] rest = new int[3][a.length() + 1][b.length() + 1];

@@ -1,4 +1,4 @@
-/** What the tests say to an aligner, and read from it, as texts. */
+/** What the tests say to an aligner, and read from it, as texts; sparing with calls, of which an object has 512. */
 final class Rows {
     private Rows() {
     }
@@ -27,7 +27,8 @@ final class Rows {
 
     static String row(RowAligner x, int row) {
         StringBuilder text = new StringBuilder();
-        for (int i = 0; i < x.size(row); i++) {
+        int size = x.size(row);
+        for (int i = 0; i < size; i++) {
             text.append((char) ('a' + x.letter(row, i)));
         }
         return text.toString();
@@ -35,7 +36,8 @@ final class Rows {
 
     static String steps(RowAligner x) {
         StringBuilder text = new StringBuilder();
-        for (int i = 0; i < x.steps(); i++) {
+        int steps = x.steps();
+        for (int i = 0; i < steps; i++) {
             text.append(x.step(i));
         }
         return text.toString();
@@ -51,7 +53,8 @@ final class Rows {
 
     static String runs(RowAligner x) {
         StringBuilder text = new StringBuilder();
-        for (int i = 0; i < x.count(0); i++) {
+        int runs = x.count(0);
+        for (int i = 0; i < runs; i++) {
             text.append(i == 0 ? "" : " ").append(x.run(i, 0)).append('x').append(x.run(i, 1));
         }
         return text.toString();
@@ -59,7 +62,8 @@ final class Rows {
 
     static String crossings(RowAligner x) {
         StringBuilder text = new StringBuilder();
-        for (int i = 0; i <= x.size(0); i++) {
+        int size = x.size(0);
+        for (int i = 0; i <= size; i++) {
             text.append(i == 0 ? "" : " ").append(x.crossing(i));
         }
         return text.toString();
