@@ -1,11 +1,29 @@
 /** Collects the answers of a test that are not as due, and ends the test. */
 final class Check {
     private final String test;
+    private String words = "";
     private int asked;
     private int wrong;
+    private int told;
 
     Check(String test) {
         this.test = test;
+    }
+
+    /** A test of its own for some words of the document, which are told with what is not as due. */
+    void sentence(String ofTheDocument, Runnable body) {
+        words = " '" + ofTheDocument + "'";
+        told = 0;
+        int before = asked;
+        try {
+            body.run();
+        } catch (RuntimeException e) {
+            tell("ended with " + e);
+        }
+        if (asked == before) {
+            tell("asked nothing");
+        }
+        words = "";
     }
 
     void same(String call, long got, long due) {
@@ -49,8 +67,9 @@ final class Check {
 
     private void tell(String what) {
         wrong++;
-        if (wrong <= 50) {
-            System.out.println(test + ": " + what);
+        told++;
+        if (told <= 20) {
+            System.out.println(test + words + ": " + what);
         }
     }
 
