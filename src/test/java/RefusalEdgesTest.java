@@ -7,6 +7,13 @@ public final class RefusalEdgesTest {
     private static final int LOW = Integer.MIN_VALUE;
     private static final int HIGH = Integer.MAX_VALUE;
 
+    /** What ready() is: its rows, the worth of its draft, its layings with whole(9) and parts(), and all at last. */
+    private static final String ROWS_AND_DRAFT = "aabb azabq 6 9";
+    private static final String LAYING_OF_WHOLE = "00002 0..4 0..5 2 2 1 1 0x4 2x1 1 0 1 2 3 4";
+    private static final String LAYING_OF_PARTS = "000 0..3 1..4 1 2 0 0 0x3 1 -1 -1 -1 -1 -1";
+    private static final String AT_LAST = "7 02000 0..4 0..5 3 3 1 1 0x1 2x1 0x3 1 0 1 3 4 5 9 11 " + LAYING_OF_PARTS
+            + " 5";
+
     private final Check check = new Check("RefusalEdgesTest");
 
     /** A call that is refused on the rows of ready(), laid or not. */
@@ -125,34 +132,25 @@ public final class RefusalEdgesTest {
     }
 
     private void changesNothing() {
-        RowAligner unlaid = ready();
-        String told = told(unlaid);
-        String toldAtLast = toldAtLast(unlaid);
-        RowAligner whole = ready();
-        whole.whole(9);
-        String toldOfWhole = toldOfLaying(whole);
-        RowAligner parts = ready();
-        parts.parts();
-        String toldOfParts = toldOfLaying(parts);
         for (Refused refused : refusals()) {
             check.sentence("A call that throws changes nothing: " + refused.call, () -> {
                 RowAligner x = ready();
                 refuse(refused, x);
                 check.badState("steps(): it lays nothing", () -> x.steps());
-                check.same("rows and draft", told(x), told);
-                check.same("all that follows", toldAtLast(x), toldAtLast);
+                check.same("rows and draft", told(x), ROWS_AND_DRAFT);
+                check.same("all that follows", toldAtLast(x), AT_LAST);
                 RowAligner y = ready();
                 y.whole(9);
                 refuse(refused, y);
-                check.same("the laying", toldOfLaying(y), toldOfWhole);
+                check.same("the laying", toldOfLaying(y), LAYING_OF_WHOLE);
                 refuse(refused, y);
-                check.same("the laying when it was told", toldOfLaying(y), toldOfWhole);
-                check.same("rows and draft behind it", told(y), told);
+                check.same("the laying when it was told", toldOfLaying(y), LAYING_OF_WHOLE);
+                check.same("rows and draft behind it", told(y), ROWS_AND_DRAFT);
                 RowAligner z = ready();
                 z.parts();
                 refuse(refused, z);
-                check.same("the laying of parts", toldOfLaying(z), toldOfParts);
-                check.same("all that follows it", toldAtLast(z), toldAtLast);
+                check.same("the laying of parts", toldOfLaying(z), LAYING_OF_PARTS);
+                check.same("all that follows it", toldAtLast(z), AT_LAST);
             });
         }
     }
@@ -437,7 +435,7 @@ public final class RefusalEdgesTest {
         check.sentence("(..; the DRAFT does not matter)", () -> {
             RowAligner x = ready();
             x.whole(9);
-            String due = toldOfLaying(x);
+            String due = LAYING_OF_WHOLE;
             x.draw(1);
             check.same("behind draw", toldOfLaying(x), due);
             x.worth(6);
@@ -456,7 +454,7 @@ public final class RefusalEdgesTest {
         });
         check.sentence("the DRAFT stays as it is when rows are laid or changed", () -> {
             RowAligner x = ready();
-            int due = x.worth(0);
+            int due = 6;
             x.whole(3);
             check.same("behind whole", x.worth(0), due);
             x.parts();
@@ -472,7 +470,7 @@ public final class RefusalEdgesTest {
         check.sentence("A laying stays as it is when it is asked for", () -> {
             RowAligner x = ready();
             x.whole(9);
-            String due = toldOfLaying(x);
+            String due = LAYING_OF_WHOLE;
             for (int time = 0; time < 3; time++) {
                 check.same("asked again", toldOfLaying(x), due);
             }
@@ -480,7 +478,7 @@ public final class RefusalEdgesTest {
             x.ways();
             x.crossing(0);
             check.same("asked in another order", toldOfLaying(x), due);
-            check.same("rows and draft", told(x), told(ready()));
+            check.same("rows and draft", told(x), ROWS_AND_DRAFT);
         });
     }
 }
