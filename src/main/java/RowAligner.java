@@ -26,6 +26,8 @@ public final class RowAligner {
     /** Far below every worth there can be, so that nothing added to it on the way makes it look like one. */
     private static final int NO_WAY = -100000000;
 
+    private static final long LOWEST_63_BITS = 0x7fffffffffffffffL;
+
     private final Ground ground;
     private final Search search;
     private final Laying laying;
@@ -595,7 +597,7 @@ public final class RowAligner {
                     }
                 }
             }
-            return all & Long.MAX_VALUE;
+            return all & LOWEST_63_BITS;
         }
 
         private long countFrom(Outlook outlook, int before, int i, int j) {
